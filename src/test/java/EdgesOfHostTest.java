@@ -258,22 +258,23 @@ public final class EdgesOfHostTest {
 
     private void sheet40() {
         e.says(40, "A SHEET becomes a row of n of a sort, all 0, or missing (sort -1; n counts nothing then): 1.");
-        UnlikeNeighbours x = new UnlikeNeighbours();
         for (int sort = 0; sort < 5; sort++) {
+            UnlikeNeighbours made = new UnlikeNeighbours();
             for (int n : new int[] {0, 1, 2, 39, 40}) {
-                e.due("sheet", x.sheet(1, sort, n), 1);
+                e.due("sheet", made.sheet(1, sort, n), 1);
                 for (int i = 0; i < n; i++) {
-                    e.due("item " + i + " of " + n, x.item(1, sort, i), 0);
+                    e.due("item " + i + " of " + n, made.item(1, sort, i), 0);
                 }
-                e.due("item " + n + " of " + n, x.item(1, sort, n), OUTSIDE);
+                e.due("item " + n + " of " + n, made.item(1, sort, n), OUTSIDE);
                 if (n > 0) {
-                    x.write(1, n - 1, 1);
-                    x.write(1, 0, 1);
+                    made.write(1, n - 1, 1);
+                    made.write(1, 0, 1);
                 }
-                e.due("sheet again", x.sheet(1, sort, n), 1);
-                e.due("all 0 again", n > 0 ? x.item(1, sort, n - 1) + x.item(1, sort, 0) : 0, 0);
+                e.due("sheet again", made.sheet(1, sort, n), 1);
+                e.due("all 0 again", n > 0 ? made.item(1, sort, n - 1) + made.item(1, sort, 0) : 0, 0);
             }
         }
+        UnlikeNeighbours x = new UnlikeNeighbours();
         Edge.sheet(x, 2, 2, 5, 6, 7);
         x.sheet(2, 2, 1);
         x.sheet(2, 2, 3);
@@ -293,15 +294,18 @@ public final class EdgesOfHostTest {
         e.outside("SHEET ahead of -14", s -> y.sheet(s, 2, -1), 0, 3, BAD);
         e.outside("sort", sort -> y.sheet(0, sort, 1), -1, 4, BAD);
         e.outside("sort ahead of -14", sort -> y.sheet(0, sort, -1), -1, 4, BAD);
-        for (int sort = 0; sort < 5; sort++) {
-            int its = sort;
-            e.outside("n above", n -> y.sheet(0, its, n), Integer.MIN_VALUE, 40, BAD);
-            for (int n : new int[] {-1, -2, -14, -41, -256, Integer.MIN_VALUE}) {
-                e.due("n " + n, y.sheet(0, sort, n), BELOW);
-            }
-        }
         e.due("it stayed", y.item(0, 2, 0) * 10 + y.item(0, 2, 1), 56);
-        e.due("it stayed", y.item(0, 2, 2), OUTSIDE);
+        for (int sort = 0; sort < 5; sort++) {
+            UnlikeNeighbours z = new UnlikeNeighbours();
+            Edge.sheet(z, 0, 2, 5, 6);
+            int its = sort;
+            e.outside("n above", n -> z.sheet(0, its, n), Integer.MIN_VALUE, 40, BAD);
+            for (int n : new int[] {-1, -2, -14, -41, -256, Integer.MIN_VALUE}) {
+                e.due("n " + n, z.sheet(0, sort, n), BELOW);
+            }
+            e.due("it stayed", z.item(0, 2, 0) * 10 + z.item(0, 2, 1), 56);
+            e.due("it stayed", z.item(0, 2, 2), OUTSIDE);
+        }
     }
 
     private static int narrowed(int sort, int v) {
@@ -356,12 +360,12 @@ public final class EdgesOfHostTest {
         e.inTurn("booleans", i -> x.item(0, 4, i), 0, 1, 1, 1, 1, 1, 0, OUTSIDE);
 
         e.says(42, "BAD: no such SHEET, sort; -13; -11; -12.");
-        UnlikeNeighbours y = new UnlikeNeighbours();
-        e.outside("SHEET", s -> y.item(s, 0, 0), 0, 3, BAD);
-        e.outside("sort of one missing", sort -> y.item(0, sort, 0), 0, 4, BAD);
+        UnlikeNeighbours none = new UnlikeNeighbours();
+        e.outside("SHEET", s -> none.item(s, 0, 0), 0, 3, BAD);
+        e.outside("sort of one missing", sort -> none.item(0, sort, 0), 0, 4, BAD);
         for (int sort = 0; sort < 5; sort++) {
             int its = sort;
-            y.sheet(0, -1, 0);
+            UnlikeNeighbours y = new UnlikeNeighbours();
             e.outside("item of one missing", i -> y.item(0, its, i), 0, -1, NOTHING);
             y.sheet(0, sort, 40);
             e.outside("item of 40", i -> y.item(0, its, i), 0, 39, OUTSIDE);
@@ -375,6 +379,7 @@ public final class EdgesOfHostTest {
         }
 
         e.says(42, "(An item may be as low as these, too.)");
+        UnlikeNeighbours y = new UnlikeNeighbours();
         for (int sort = 0; sort < 4; sort++) {
             Edge.sheet(y, 1, sort, -1, -2, -3, -4, -11, -12, -13, -14, -15);
             int its = sort;
@@ -586,19 +591,20 @@ public final class EdgesOfHostTest {
         e.due("one OUT", x.taken(3, 0), 4);
 
         e.says(46, "BAD: no such SHELF, as; -13; -11.");
+        UnlikeNeighbours y = Edge.all(LIVING, 1);
+        y.sheet(2, 2, 5);
+        y.shelf(1, 1, 2);
+        y.shelf(3, 0, 0);
         int[] no = {-2, -1, 6, 7, 8, 9, 15, 16, 20, 32, 256, 266, Integer.MIN_VALUE, Integer.MAX_VALUE};
         for (int as : no) {
-            e.due("as " + as + " of a good", x.taken(3, as), BAD);
-            e.due("as " + as + " of nothing", x.taken(0, as), BAD);
-        }
-        x.shelf(1, 1, 2);
-        for (int as : no) {
-            e.due("as " + as + " of a row", x.taken(1, as), BAD);
+            e.due("as " + as + " of a good", y.taken(3, as), BAD);
+            e.due("as " + as + " of nothing", y.taken(0, as), BAD);
+            e.due("as " + as + " of a row", y.taken(1, as), BAD);
         }
         for (int as = 0; as <= 14; as = as == 5 ? 10 : as + 1) {
             int asked = as;
-            e.due("nothing as " + as, x.taken(0, as), NOTHING);
-            e.outside("SHELF", s -> x.taken(s, asked), 0, 3, BAD);
+            e.due("nothing as " + as, y.taken(0, as), NOTHING);
+            e.outside("SHELF", s -> y.taken(s, asked), 0, 3, BAD);
         }
     }
 
