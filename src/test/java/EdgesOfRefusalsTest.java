@@ -517,6 +517,7 @@ public final class EdgesOfRefusalsTest {
             e.due("room for nine", x.good(LIVING, 0, 0, 1), FULL);
             e.due("again", x.again(), goods);
         }
+        reportsAgain();
         UnlikeNeighbours full = full();
         full.forget();
         full.come();
@@ -543,5 +544,36 @@ public final class EdgesOfRefusalsTest {
         e.due("no GOODS are kept, which is something", none.again(), 0);
         none.good(GOAT, 0, 0, 1);
         e.due("none again", none.again() + none.many(0), 0);
+    }
+
+    /** Each REPORT comes again with its good and what it told of it. */
+    private void reportsAgain() {
+        for (int kept = 0; kept < 6; kept++) {
+            UnlikeNeighbours x = Edge.all(LIVING, 9);
+            for (int i = 0; i < 6; i++) {
+                x.report(8, i == kept ? 0 : 1);
+            }
+            x.report(8, 1);
+            x.keep();
+            e.due("LIAR", x.liar(), kept);
+            x.forget();
+            for (int i = 0; i < 6; i++) {
+                x.report(i, 1);
+            }
+            x.again();
+            e.due("LIAR again", x.liar(), kept);
+            x.forget();
+            for (int i = 0; i < 6; i++) {
+                x.report(i == kept ? 0 : 8, 0);
+            }
+            e.due("LIAR of others", x.liar(), kept);
+            x.keep();
+            x.forget();
+            for (int i = 0; i < 6; i++) {
+                x.report(4, 0);
+            }
+            x.again();
+            e.due("LIAR of others again", x.liar(), kept);
+        }
     }
 }

@@ -310,6 +310,11 @@ public final class EdgesOfRulesTest {
                 }
             }
         }
+        for (String each : new String[] {";", "(", ")", "<", "=", ">", "x", "7", "!"}) {
+            // Two hundred tokens, or one.
+            faultAt(each.repeat(200), 0);
+        }
+        faultAt("good if 1=1" + ")".repeat(189), 11);
         faultAt("   good   more   more", 17);
         faultAt("good free; good x; y", 16);
 
