@@ -432,6 +432,19 @@ public final class EdgesOfCratesTest {
             e.due("z", x.seed(1), seed);
             e.due("none went", x.many(2) * 1000 + x.may(), 56);
         }
+        for (int first : new int[] {3, 4, 5}) {
+            UnlikeNeighbours x = e.gone(Edge.all(LIVING, 6), first);
+            int all = 0;
+            int z = 1;
+            for (int n = 1; n <= 60; n++) {
+                Run run = new Run(6, LIVING, 1 << first, z);
+                run.last = first;
+                run.tillNone();
+                z = run.z;
+                all += run.inside == 0 ? 1 : 0;
+                e.due("often(" + n + ") behind " + first, x.often(n), all);
+            }
+        }
         UnlikeNeighbours y = Edge.all(LIVING, 6);
         e.gone(y, 4);
         int may = y.may();
@@ -554,5 +567,11 @@ public final class EdgesOfCratesTest {
         e.due("behind THE LINE", x.judge(), 0);
         x.come();
         e.due("how many are IN", x.judge(), 1);
+        UnlikeNeighbours y = e.gone(Edge.shed(GOAT, 0, 0, 10, GOAT, 1, 0, 10), 1);
+        y.prove();
+        e.due("behind a goat", y.judge(), 0);
+        y.remake(0, LIVING);
+        y.remake(1, LIVING);
+        e.due("beside the last one of THE LINE", y.judge(), 1);
     }
 }

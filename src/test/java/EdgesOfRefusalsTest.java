@@ -518,6 +518,7 @@ public final class EdgesOfRefusalsTest {
             e.due("again", x.again(), goods);
         }
         reportsAgain();
+        nineAgain();
         UnlikeNeighbours full = full();
         full.forget();
         full.come();
@@ -574,6 +575,32 @@ public final class EdgesOfRefusalsTest {
             }
             x.again();
             e.due("LIAR of others again", x.liar(), kept);
+        }
+    }
+
+    /** All of nine goods and of a LINE of nine come again. */
+    private void nineAgain() {
+        for (int out : new int[] {0, 1, 8, 9}) {
+            UnlikeNeighbours x = Edge.all(GOAT, 9);
+            int[] order = {8, 5, 2, 7, 4, 1, 6, 3, 0};
+            for (int k = 0; k < out; k++) {
+                x.go(order[k]);
+            }
+            String before = shedOf(x);
+            x.keep();
+            for (int k = 0; k < out; k++) {
+                x.come();
+            }
+            for (int g = 8; g >= 0; g--) {
+                x.go(g);
+            }
+            for (int g = 0; g < 9; g++) {
+                x.remake(g, g % 2 == 0 ? ROYAL : TWIN);
+                x.change(g, 2, 9 - g);
+                x.change(g, 3, 900 + g);
+            }
+            e.due("nine as they were", x.again(), 9);
+            e.due("with " + out + " OUT", shedOf(x), before);
         }
     }
 }
