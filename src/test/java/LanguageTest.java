@@ -26,7 +26,19 @@ public final class LanguageTest {
         check.due("those inside are private and static", nested, classes - 1);
         check.due("statics are final", count(bare, "\\bstatic (?!final|class)[\\w\\[\\]]+ \\w+( =|;)"), 0);
         checkMethods(check, bare);
+        checkMade(check, bare);
         check.end();
+    }
+
+    // What is made anew by a call is counted against the room: only act() makes something, its thing.
+    private static void checkMade(Check check, String bare) {
+        Pattern allowed = Pattern.compile(" +(private )?final [\\w\\[\\]]+ \\w+ = new .*;"
+            + "| +sheets\\[i\\] = new Sheet\\(\\);| +(case \\w+|default): return new \\w+\\(n, a\\);");
+        for (String line : bare.split("\n")) {
+            if (line.matches(".*\\bnew\\b.*")) {
+                check.due("made anew: " + line.trim(), allowed.matcher(line).matches() ? 0 : 1, 0);
+            }
+        }
     }
 
     private static long count(String text, String pattern) {
